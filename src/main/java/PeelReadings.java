@@ -938,7 +938,7 @@ public final class PeelReadings {
         }
 
         boolean has(int r, int i) {
-            return i >= 0 && i < sizeOf(r);
+            return r >= 0 && r < sizes.length && i >= 0 && i < sizes[r];
         }
 
         boolean hasRun(int r, int i, int n) {
@@ -1209,7 +1209,7 @@ public final class PeelReadings {
         }
 
         boolean isLifted(int i) {
-            return bit(lifted, i) == 1;
+            return (lifted >> i & 1) == 1;
         }
 
         /** The set of all peels. */
@@ -1345,7 +1345,7 @@ public final class PeelReadings {
         }
 
         int linesNow() {
-            return linesBy(coveredNow());
+            return linesBy(coverOfAllBut(NONE, NONE) & ~licked);
         }
 
         /** As linesBy tells, but it ends at the first line that is not read: many pairs of places are tried. */

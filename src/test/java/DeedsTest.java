@@ -9,6 +9,7 @@ final class DeedsTest {
         lift();
         lick();
         full();
+        fortieth();
         undo();
         keepAndOn();
         Check.end();
@@ -114,6 +115,31 @@ final class DeedsTest {
         Check.due("full: nothing has changed", x.digest(), before);
         Check.due("undo(39)", x.undo(39), 1);
         Check.due("morning() then", x.morning() >= 0 ? 1 : 0, 1);
+    }
+
+    /** Each deed is still done as the fortieth, and no more as the next. */
+    private static void fortieth() {
+        for (int which = 0; which < 6; which++) {
+            PeelReadings x = Check.slice("n2 p0120 i0010");
+            for (int k = 0; k < 39; k++) {
+                x.turn(1);
+            }
+            int got = deed(x, which);
+            Check.due("the fortieth deed " + which + " answered " + got + ": not refused", got >= 0 ? 1 : 0, 1);
+            Check.due("the fortieth deed " + which, x.count(3), 40);
+            Check.due("the next deed " + which, deed(x, which), FULL);
+        }
+    }
+
+    private static int deed(PeelReadings x, int which) {
+        switch (which) {
+            case 0: return x.morning();
+            case 1: return x.shift(0, x.count(3) == 39 ? 2 : 3);
+            case 2: return x.turn(0);
+            case 3: return x.lift(0);
+            case 4: return x.lick(0);
+            default: return x.lots(1, 5);
+        }
     }
 
     private static void undo() {

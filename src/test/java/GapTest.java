@@ -50,6 +50,8 @@ final class GapTest {
         Check.chance("gap of eight", y, y.gap(0), 225, 1);
         Check.chance("gap of eight: column 0", y, y.gap(Check.set(4)), 15, 1);
         Check.due("gap of eight: column 0, least", y.asked(), Check.set(0, 4, 8, 12));
+        Check.chance("gap of eight: all eight", y, y.gap(Check.set(4, 6)), 1, 1);
+        Check.due("gap of eight: all eight, least", y.asked(), Check.set(0, 2, 4, 6, 8, 10, 12, 14));
     }
 
     private static void sure() {
