@@ -263,10 +263,11 @@ public final class PeelReadings {
     }
 
     public int undo(int n) {
-        if (!deeds.has(NOW, n)) {
+        int undone = deeds.sizeOf(NOW) - n;
+        // The number right behind the last deed is a place to undo from, too: none are undone.
+        if (n < 0 || undone < 0) {
             return BAD;
         }
-        int undone = deeds.sizeOf(NOW) - n;
         deeds.cut(NOW, n);
         doAnew();
         return undone;

@@ -143,22 +143,46 @@ final class DeedsTest {
     }
 
     private static void undo() {
-        Check.bad("undo(0) without PEELS", new PeelReadings().undo(0));
+        undoNone();
         PeelReadings x = Check.slice("n2 p0120 c0711 i0310");
         long[] digests = new long[9];
         for (int k = 0; k < 9; k++) {
             digests[k] = x.digest();
             someDeed(x, k);
         }
-        Check.bad("undo(9)", x.undo(9));
+        long all = x.digest();
+        Check.due("undo(9): none", x.undo(9), 0);
+        Check.bad("undo(10)", x.undo(10));
         Check.bad("undo(-1)", x.undo(-1));
+        Check.bad("undo(greatest)", x.undo(Integer.MAX_VALUE));
+        Check.bad("undo(least)", x.undo(Integer.MIN_VALUE));
+        Check.due("undo of none changes nothing", x.digest(), all);
         for (int k = 8; k >= 1; k -= 2) {
             Check.due("undo(" + k + ")", x.undo(k), k == 8 ? 1 : 2);
             Check.due("undo(" + k + "): as it was", x.digest(), digests[k]);
         }
         Check.due("undo(0)", x.undo(0), 2);
         Check.due("undo(0): as it was", x.digest(), digests[0]);
-        Check.bad("undo(0) without DEEDS", x.undo(0));
+        Check.due("undo(0) without DEEDS", x.undo(0), 0);
+        Check.due("undo(0) without DEEDS: as it was", x.digest(), digests[0]);
+        Check.bad("undo(1) without DEEDS", x.undo(1));
+    }
+
+    private static void undoNone() {
+        PeelReadings x = new PeelReadings();
+        long fresh = x.digest();
+        Check.due("undo(0) without PEELS", x.undo(0), 0);
+        Check.bad("undo(1) without PEELS", x.undo(1));
+        Check.bad("undo(-1) without PEELS", x.undo(-1));
+        Check.due("undo without PEELS changes nothing", x.digest(), fresh);
+        Check.due("undo finds nothing", x.finding(), 0);
+        PeelReadings full = Check.slice("n2 p0120");
+        for (int k = 0; k < 40; k++) {
+            full.turn(0);
+        }
+        Check.due("undo(40) of 40", full.undo(40), 0);
+        Check.due("undo(40): all DEEDS stay", full.count(3), 40);
+        Check.bad("undo(41) of 40", full.undo(41));
     }
 
     private static void someDeed(PeelReadings x, int k) {

@@ -425,7 +425,7 @@ final class PlainModel {
 
     int undo(int n) {
         int deeds = story.size() - 1;
-        if (!in(n, 0, deeds - 1)) return BAD;
+        if (!in(n, 0, deeds)) return BAD;
         story = new ArrayList<>(story.subList(0, n + 1));
         return deeds - n;
     }
