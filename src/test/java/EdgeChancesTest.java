@@ -8,6 +8,7 @@ final class EdgeChancesTest {
         duelAllLifted();
         duelNoneAndAllLines();
         duelFallsThen();
+        duelSetDownFallsToo();
         duelIsAside();
         duelAgainstTrueDeeds();
         oddsBy0And12();
@@ -111,6 +112,24 @@ final class EdgeChancesTest {
         Check.told("MORNING 2", x, x.duel(0), 1);
         x.lick(13);
         Check.told("MORNING 2, LICKED", x, x.duel(0), 0);
+    }
+
+    /** What the don sets down is not LIFTED when it is MORNING, so it falls as all others do. */
+    private static void duelSetDownFallsToo() {
+        // from 1, where it would make line 0 READ, to 7, where it COVERS one PLACE alone
+        PeelReadings fewer = Check.slice("n2 p0120");
+        fewer.lift(0);
+        Check.told("set down, it falls to 7", fewer, fewer.duel(1), 0);
+        // from 7 to 37 = 5, where it makes line 1 READ
+        PeelReadings more = Check.slice("n2 p0720");
+        more.lift(0);
+        Check.told("LIFTED", more, more.duel(0), 0);
+        Check.told("set down, it falls to 5", more, more.duel(1), 1);
+        Check.told("set down, LIFTED, set down", more, more.duel(2), 1);
+        more.morning();
+        more.morning();
+        // MORNING 2: from 7 to 39 = 7, DOWN: 7, 11
+        Check.told("set down, it lies DOWN then", more, more.duel(1), 1);
     }
 
     private static void duelIsAside() {

@@ -6,6 +6,7 @@ final class EdgeFaultTest {
     public static void main(String[] args) {
         blanksAlone();
         everyByteOfAnItem();
+        bothFiguresAreNone();
         everyByteAhead();
         everyByteBehind();
         everyEndThatComesEarly();
@@ -22,6 +23,7 @@ final class EdgeFaultTest {
         theFirstFaultOfTwo();
         faultIsAside();
         sliceAnew();
+        sliceAnewBehindWhatIsAside();
         sliceLeavesTheRest();
         Check.end();
     }
@@ -72,6 +74,15 @@ final class EdgeFaultTest {
                 want = k == 3 && v >= '2' && v <= '9' ? 3 : want;
                 Check.due("byte " + v + " at " + k, faultOf(signs), want);
             }
+        }
+    }
+
+    /** The second of two figures is looked at just if the first is one. */
+    private static void bothFiguresAreNone() {
+        for (int v = 0; v < 256; v++) {
+            boolean isFigure = v >= '0' && v <= '9';
+            Check.due("byte " + v + " ahead of x", faultOf("n1p" + (char) v + "x10"), isFigure ? 4 : 3);
+            Check.due("byte " + v + " ahead of the end", faultOf("n1p" + (char) v), isFigure ? 4 : 3);
         }
     }
 
@@ -269,6 +280,29 @@ final class EdgeFaultTest {
         Check.told("slice(0) anew: its PLACE", x, x.peel(0, 1), 0);
         Check.due("slice(0) anew: as new", x.digest(), Check.slice("n1 p0030 l0910").digest());
         fewerPeelsAnew();
+    }
+
+    /** What was asked aside ahead of it, with MORNINGS, LIFTED and LICKED ones, is not in a SLICE anew. */
+    private static void sliceAnewBehindWhatIsAside() {
+        String[] calls = {"reads", "first", "places", "kinds", "next", "duel", "odds", "mid", "best", "gap", "found"};
+        int[][] arguments = {{3}, {0}, {1, 0}, {1, 0}, {1, 0}, {2}, {0, 5}, {5}, {0}, {0}, {3, 1}};
+        for (int k = 0; k < calls.length; k++) {
+            PeelReadings x = Check.slice("n1 p0030 l0910");
+            x.row(0, 1);
+            x.lay(0, 0, x.reads(1));
+            x.row(1, 0);
+            x.lift(0);
+            x.lick(15);
+            x.morning();
+            Twins.ask(x, calls[k], arguments[k]);
+            Check.due("slice(0) behind " + calls[k], x.slice(0), 2);
+            int[] want = {2, 1, 0, 0, 0, 0, 0};
+            for (int what = 0; what < want.length; what++) {
+                Check.due("slice(0) behind " + calls[k] + ": count(" + what + ")", x.count(what), want[what]);
+            }
+            Check.told("slice(0) behind " + calls[k] + ": its PLACE", x, x.peel(0, 1), 0);
+            Check.told("slice(0) behind " + calls[k] + ": KIND", x, x.peel(1, 0), 2);
+        }
     }
 
     private static void fewerPeelsAnew() {

@@ -19,6 +19,7 @@ final class EdgeReadTest {
         foundByTheFirstOne();
         foundByTheLastTwo();
         foundByTheFirstTwo();
+        foundSecondToTheFirstPlace();
         foundLiftedOnesNot();
         foundLicked();
         foundByThreeIsNone();
@@ -252,6 +253,16 @@ final class EdgeReadTest {
         Check.rowIs("lines 0, 1, 3", x, 0, 0, 0, 1, 4);
         Check.due("lines 0, 5", x.found(Check.set(0, 5), 0), 1);
         Check.rowIs("lines 0, 5: one is enough", x, 0, 0, 1);
+    }
+
+    /** Rows 0, 3 and columns 0, 2, 3: the PEEL to 2 and the PIP to 12, or the PEEL to 14 and the PIP to 0. */
+    private static void foundSecondToTheFirstPlace() {
+        PeelReadings x = Check.slice("n1 p0520 i0510");
+        Check.due("lines 0, 3, 4, 6, 7", x.found(Check.set(0, 3, 4, 6, 7), 0), 2);
+        Check.rowIs("lines 0, 3, 4, 6, 7", x, 0, 0, 2, 1, 12);
+        x.lick(12);
+        Check.due("lines 0, 3, 4, 6, 7, LICKED", x.found(Check.set(0, 3, 4, 6, 7), 0), 2);
+        Check.rowIs("lines 0, 3, 4, 6, 7, LICKED", x, 0, 0, 14, 1, 0);
     }
 
     /** "LIFTED ones not": neither are they shifted, nor do they COVER. */

@@ -6,17 +6,23 @@ import java.util.Random;
 
 /** All promises: long runs of calls, ordinary ones and wild ones, against the plain model. */
 final class ModelTest {
-    private static final int RUNS = 1200;
-    private static final int CALLS = 160;
+    private static final int RUNS = 3000;
+    /** What an object answers beyond these is free. */
+    private static final int CALLS = 512;
+    /** No step of a run takes as many calls: a TEXT and its SLICE, a ROW of ten, one call, what is told then. */
+    private static final int STEP = 110;
     private static final int[] WILD = {Integer.MIN_VALUE, Integer.MIN_VALUE + 1, -1000, -2, -1, 0, 1, 2, 3, 4, 5, 6, 7,
         8, 10, 11, 12, 13, 14, 15, 16, 17, 20, 21, 24, 25, 39, 40, 41, 59, 60, 61, 255, 256, 1 << 16, 1 << 30,
         Integer.MAX_VALUE - 1, Integer.MAX_VALUE};
+    private static final String[] DEEDS = {"morning", "shift", "turn", "lift", "lick", "lots"};
     private static final String SIGNS = "nptlchi 012345x" + (char) 255;
 
     private static final Map<String, Method> ASKED = new HashMap<>();
     private static final Map<String, Method> WANTED = new HashMap<>();
     /** How often each call was not refused: a call that is always refused is hardly tested. */
     private static final Map<String, Integer> ANSWERED = new HashMap<>();
+    /** How often each DEED came as one too many. */
+    private static final Map<String, Integer> FULL = new HashMap<>();
 
     private final Random random;
     private final int run;
@@ -44,24 +50,38 @@ final class ModelTest {
         for (Map.Entry<String, Integer> entry : ANSWERED.entrySet()) {
             Check.due(entry.getKey() + " was often not refused", entry.getValue() > 500 ? 1 : 0, 1);
         }
+        for (String name : DEEDS) {
+            Check.due(name + " was often FULL", FULL.getOrDefault(name, 0) > 100 ? 1 : 0, 1);
+        }
         Check.end();
     }
 
     private void play() throws ReflectiveOperationException {
         String[] names = ASKED.keySet().toArray(new String[0]);
         Arrays.sort(names);
-        for (int call = 0; call < CALLS; call++) {
+        // in half of the runs little is told besides, so that they come to more
+        int seldom = run % 2 == 0 ? 1 : 12;
+        for (int step = 0; calls < CALLS - STEP; step++) {
             // some runs keep to one slice, so that they come to forty deeds
-            if (call == 5 || call % 40 == 5 && run % 3 > 0) {
+            if (step == 5 || step % 40 == 5 && run % 3 == 1) {
                 slice();
             }
-            String name = names[random.nextInt(names.length)];
-            if (random.nextInt(3) > 0 && (name.equals("places") || name.equals("kinds") || name.equals("next"))) {
-                laySeen();
+            if (step == 3 && run % 4 == 3) {
+                rows();
             }
-            call(name, arguments(name));
-            told();
+            String[] among = run % 4 == 1 && random.nextInt(2) == 0 ? DEEDS : names;
+            String name = among[random.nextInt(among.length)];
+            int[] arguments = arguments(name);
+            if (random.nextInt(3) > 0 && (name.equals("places") || name.equals("kinds") || name.equals("next"))) {
+                laySeen(arguments[1]);
+            }
+            call(name, arguments);
+            if (step % seldom == 0) {
+                told();
+            }
         }
+        told();
+        Check.due("run " + run + " keeps to 512 calls", calls <= CALLS ? 1 : 0, 1);
     }
 
     private long call(String name, int... arguments) throws ReflectiveOperationException {
@@ -71,6 +91,9 @@ final class ModelTest {
         Check.due("run " + run + ", call " + calls + ": " + name + Arrays.toString(arguments), got, want);
         if (want >= 0 || want == PeelReadings.NONE || arguments.length == 0) {
             ANSWERED.merge(name, 1, Integer::sum);
+        }
+        if (want == PeelReadings.FULL) {
+            FULL.merge(name, 1, Integer::sum);
         }
         calls++;
         return want;
@@ -85,6 +108,13 @@ final class ModelTest {
             call("findings", f);
         }
         call("digest");
+    }
+
+    private void rows() throws ReflectiveOperationException {
+        for (int r = 0; r < 6; r++) {
+            call("row", r, 2 + random.nextInt(5));
+            call("lay", r, 1, random.nextInt());
+        }
     }
 
     /** A text, most often without a fault, and a slice by it. */
@@ -125,15 +155,13 @@ final class ModelTest {
         return SIGNS.charAt(random.nextInt(SIGNS.length()));
     }
 
-    /** Into all rows what will be read, now and then with another number among it. */
-    private void laySeen() throws ReflectiveOperationException {
+    /** Into a row what will be read, now and then with another number among it. */
+    private void laySeen(int r) throws ReflectiveOperationException {
         int size = 1 + random.nextInt(random.nextInt(4) == 0 ? 10 : 3);
-        for (int r = 0; r < 6; r++) {
-            call("row", r, size);
-            for (int k = 0; k < size; k++) {
-                int lines = (int) call("reads", k + 1);
-                call("lay", r, k, random.nextInt(12) == 0 ? any(256) : Math.max(0, lines));
-            }
+        call("row", r, size);
+        for (int k = 0; k < size; k++) {
+            int lines = (int) call("reads", k + 1);
+            call("lay", r, k, random.nextInt(12) == 0 ? any(256) : Math.max(0, lines));
         }
     }
 
