@@ -1,3 +1,5 @@
+import java.util.Arrays;
+
 /** The ends of promises 10 and 11: the small language of a SLICE, sign by sign, and where its FAULT is. */
 final class EdgeFaultTest {
     private static final int NONE = PeelReadings.NONE;
@@ -24,6 +26,7 @@ final class EdgeFaultTest {
         faultIsAside();
         sliceAnew();
         sliceAnewBehindWhatIsAside();
+        fewerPeelsAnew();
         sliceLeavesTheRest();
         Check.end();
     }
@@ -279,7 +282,6 @@ final class EdgeFaultTest {
         Check.due("slice(0) anew: no DEEDS to be undone", x.undo(0), 0);
         Check.told("slice(0) anew: its PLACE", x, x.peel(0, 1), 0);
         Check.due("slice(0) anew: as new", x.digest(), Check.slice("n1 p0030 l0910").digest());
-        fewerPeelsAnew();
     }
 
     /** What was asked aside ahead of it, with MORNINGS, LIFTED and LICKED ones, is not in a SLICE anew. */
@@ -305,14 +307,77 @@ final class EdgeFaultTest {
         }
     }
 
+    /** PEELS that there are no more: no call answers by them. */
     private static void fewerPeelsAnew() {
-        PeelReadings x = Check.slice("n1" + peels(6));
+        String[] calls = {"peel", "mark", "covers", "covered", "weighs", "reads", "first", "found", "best", "gap", "sure",
+            "places", "kinds", "next", "sets", "surely", "duel", "odds", "mid", "count"};
+        for (String signs : new String[] {"n4 i1541", "n2 l0010 t0530", "n1 c0730 h1141 p0020 i1010 l0310"}) {
+            for (String call : calls) {
+                fewerAlike(signs, call);
+            }
+            PeelReadings fewer = fewer(signs);
+            PeelReadings fresh = fresh(signs);
+            for (int k = 0; k < 6; k++) {
+                Check.due(signs + ": morning()", fewer.morning(), fresh.morning());
+                Check.due(signs + ": lots(6, 9)", fewer.lots(6, 9), fresh.lots(6, 9));
+                Check.due(signs + ": digest()", fewer.digest(), fresh.digest());
+            }
+        }
+    }
+
+    private static PeelReadings fresh(String signs) {
+        PeelReadings x = Check.slice(signs);
+        x.row(0, 1);
+        return x;
+    }
+
+    /** Behind a SLICE of six, two of them LIFTED. */
+    private static PeelReadings fewer(String signs) {
+        PeelReadings x = Check.slice("n1 l0030 l0221 l0840 l1031 i0520 l1510");
         x.lift(5);
-        Check.write(x, 0, "n4 i1541");
-        Check.due("fewer PEELS", x.slice(0), 1);
-        Check.due("fewer PEELS: LIFTED", x.count(5), 0);
-        Check.bad("fewer PEELS: peel(1, 0)", x.peel(1, 0));
-        Check.due("fewer PEELS: as new", x.digest(), Check.slice("n4 i1541").digest());
+        x.lift(0);
+        x.duel(1);
+        x.places(5, 0);
+        Check.write(x, 0, signs);
+        x.slice(0);
+        x.row(0, 1);
+        return x;
+    }
+
+    /** Arguments of a call, the k-th of many. */
+    private static int[] argumentsFor(String call, int k) {
+        switch (call) {
+            case "covered": return new int[0];
+            case "gap": return new int[] {5 * k};
+            case "sure": return new int[] {5 * k};
+            case "found": return new int[] {5 * k, 0};
+            case "covers": return new int[] {k / 8, k % 16, k % 2};
+            case "peel": return new int[] {k / 8, k % 8};
+            case "mark": return new int[] {k / 8, k % 8};
+            case "odds": return new int[] {k % 8, 1 + k / 8};
+            case "places": return new int[] {k % 8, 0};
+            case "kinds": return new int[] {k % 8, 0};
+            case "next": return new int[] {k % 8, 0};
+            default: return new int[] {k};
+        }
+    }
+
+    private static void fewerAlike(String signs, String call) {
+        PeelReadings fewer = fewer(signs);
+        PeelReadings fresh = fresh(signs);
+        fresh.odds(0, 0);
+        fewer.odds(0, 0);
+        fresh.reads(0);
+        fewer.reads(0);
+        for (int k = 0; k < 48; k++) {
+            int[] arguments = argumentsFor(call, k);
+            String name = signs + ": " + call + Arrays.toString(arguments);
+            Check.due(name, Twins.ask(fewer, call, arguments), Twins.ask(fresh, call, arguments));
+            Check.due(name + ", asked()", fewer.asked(), fresh.asked());
+            Check.due(name + ", upper()", fewer.upper(), fresh.upper());
+            Check.due(name + ", lower()", fewer.lower(), fresh.lower());
+            Check.due(name + ", digest()", fewer.digest(), fresh.digest());
+        }
     }
 
     /** What is told, ROWS, TEXTS, FINDINGS are none of what is anew. */
