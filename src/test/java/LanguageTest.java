@@ -4,18 +4,24 @@ import com.sun.source.tree.BlockTree;
 import com.sun.source.tree.ClassTree;
 import com.sun.source.tree.CompilationUnitTree;
 import com.sun.source.tree.CompoundAssignmentTree;
+import com.sun.source.tree.DoWhileLoopTree;
 import com.sun.source.tree.EnhancedForLoopTree;
+import com.sun.source.tree.ForLoopTree;
 import com.sun.source.tree.ImportTree;
 import com.sun.source.tree.LambdaExpressionTree;
 import com.sun.source.tree.MemberReferenceTree;
 import com.sun.source.tree.MethodInvocationTree;
 import com.sun.source.tree.MethodTree;
+import com.sun.source.tree.NewArrayTree;
 import com.sun.source.tree.NewClassTree;
+import com.sun.source.tree.PackageTree;
 import com.sun.source.tree.SynchronizedTree;
 import com.sun.source.tree.ThrowTree;
 import com.sun.source.tree.Tree;
 import com.sun.source.tree.TryTree;
+import com.sun.source.tree.TypeCastTree;
 import com.sun.source.tree.VariableTree;
+import com.sun.source.tree.WhileLoopTree;
 import com.sun.source.util.JavacTask;
 import com.sun.source.util.TreePathScanner;
 import com.sun.source.util.Trees;
@@ -44,10 +50,19 @@ final class LanguageTest {
     private static final Path SOURCE = Path.of("src/main/java/PeelReadings.java");
     private static final Path DOCUMENT = Path.of("../shared/DOC.md");
     private static final int MOST_PARAMETERS = 7, MOST_LINES = 60, MOST_CALLS = 8, MOST_CLASSES = 12, MOST_FIELDS = 20;
-    private static final Set<String> LIBRARY = Set.of("java.lang.Integer", "java.lang.Long", "java.lang.Math",
-        "java.lang.String", "java.lang.StringBuilder", "java.util.ArrayList", "java.util.List");
-    private static final Set<String> LIBRARY_METHODS = Set.of("java.lang.System.arraycopy", "java.util.Arrays.copyOf",
-        "java.util.Arrays.copyOfRange", "java.util.Arrays.fill");
+    /** Of these, the static functions whose names do not end in Exact. */
+    private static final Set<String> FUNCTIONS = Set.of("java.lang.Integer", "java.lang.Long", "java.lang.Math");
+    private static final Map<String, Set<String>> LIBRARY = Map.of(
+        "java.lang.Object", Set.of("<init>", "clone"),
+        "java.lang.String", Set.of("<init>", "length", "charAt", "isEmpty", "equals", "indexOf", "substring", "toCharArray"),
+        "java.lang.StringBuilder", Set.of("<init>", "append", "charAt", "setCharAt", "setLength", "deleteCharAt", "reverse",
+            "length", "toString"),
+        "java.util.ArrayList", Set.of("<init>", "add", "get", "set", "remove", "size", "isEmpty", "clear"),
+        "java.util.List", Set.of("of", "add", "get", "set", "remove", "size", "isEmpty", "clear"),
+        "java.util.Arrays", Set.of("copyOf", "copyOfRange", "fill"),
+        "java.lang.System", Set.of("arraycopy"));
+    private static final Set<String> CONSTANT_TYPES = Set.of("int", "long", "boolean", "char", "String");
+    private static final Set<String> CONSTANT_ROWS = Set.of("int[]", "long[]", "char[]", "byte[]");
 
     public static void main(String[] args) throws IOException {
         face();
@@ -151,6 +166,12 @@ final class LanguageTest {
         }
 
         @Override
+        public Void visitPackage(PackageTree tree, Void none) {
+            no("a package line", tree);
+            return super.visitPackage(tree, none);
+        }
+
+        @Override
         public Void visitImport(ImportTree tree, Void none) {
             String name = tree.getQualifiedIdentifier().toString();
             if (!name.startsWith("java.util.")) {
@@ -168,8 +189,8 @@ final class LanguageTest {
                     boolean isStatic = field.getModifiers().getFlags().contains(javax.lang.model.element.Modifier.STATIC);
                     boolean isFinal = field.getModifiers().getFlags().contains(javax.lang.model.element.Modifier.FINAL);
                     fields += isStatic ? 0 : 1;
-                    if (isStatic && !isFinal) {
-                        no("rule 5: static, not final", field);
+                    if (isStatic && (!isFinal || !isConstant(field))) {
+                        no("rule 5: static, no constant: " + field.getName(), field);
                     }
                 }
                 if (member instanceof BlockTree) {
@@ -181,6 +202,12 @@ final class LanguageTest {
                 no("rule 2: a local class", tree);
             }
             return super.visitClass(tree, none);
+        }
+
+        private static boolean isConstant(VariableTree field) {
+            String type = field.getType().toString();
+            boolean isWrittenOut = field.getInitializer() instanceof NewArrayTree row && row.getInitializers() != null;
+            return CONSTANT_TYPES.contains(type) || CONSTANT_ROWS.contains(type) && isWrittenOut;
         }
 
         @Override
@@ -212,17 +239,59 @@ final class LanguageTest {
             if (tree.getClassBody() != null) {
                 no("rule 2: an anonymous class", tree);
             }
+            made(tree);
             note(trees.getElement(getCurrentPath()), tree);
             return super.visitNewClass(tree, none);
+        }
+
+        @Override
+        public Void visitNewArray(NewArrayTree tree, Void none) {
+            made(tree);
+            return super.visitNewArray(tree, none);
+        }
+
+        /** Rule 12 leaves more; the class makes all that it needs ahead, so that no run of calls fills the room. */
+        private void made(Tree tree) {
+            if (within != null && within.getKind() != ElementKind.CONSTRUCTOR) {
+                no("rule 12: made outside of a constructor", tree);
+            }
+        }
+
+        /** Rule 9: an end that can be seen, which a counter's bound is. */
+        @Override
+        public Void visitForLoop(ForLoopTree tree, Void none) {
+            if (tree.getCondition() == null || tree.getUpdate().size() != 1) {
+                no("rule 9: a loop without a bound, a counter", tree);
+            }
+            return super.visitForLoop(tree, none);
+        }
+
+        @Override
+        public Void visitWhileLoop(WhileLoopTree tree, Void none) {
+            no("rule 9: while has no counter", tree);
+            return super.visitWhileLoop(tree, none);
+        }
+
+        @Override
+        public Void visitDoWhileLoop(DoWhileLoopTree tree, Void none) {
+            no("rule 9: do has no counter", tree);
+            return super.visitDoWhileLoop(tree, none);
+        }
+
+        @Override
+        public Void visitTypeCast(TypeCastTree tree, Void none) {
+            if (!trees.getTypeMirror(getCurrentPath()).getKind().isPrimitive()) {
+                no("rule 6: a cast that may fail", tree);
+            }
+            return super.visitTypeCast(tree, none);
         }
 
         private void note(Element called, Tree tree) {
             String owner = ((TypeElement) called.getEnclosingElement()).getQualifiedName().toString();
             if (!owner.startsWith("PeelReadings")) {
                 String name = called.getSimpleName().toString();
-                boolean isListed = LIBRARY.contains(owner) && !name.endsWith("Exact")
-                    || LIBRARY_METHODS.contains(owner + "." + name) || owner.equals("java.lang.Object");
-                if (!isListed) {
+                boolean isListed = LIBRARY.getOrDefault(owner, Set.of()).contains(name);
+                if (!isListed && (!FUNCTIONS.contains(owner) || name.endsWith("Exact"))) {
                     no("rule 4: " + owner + "." + name, tree);
                 }
                 return;

@@ -2,6 +2,7 @@ import java.lang.reflect.Method;
 import java.util.Arrays;
 import java.util.HashMap;
 import java.util.Map;
+import java.util.Set;
 import java.util.function.Supplier;
 
 /**
@@ -27,6 +28,11 @@ final class Twins {
     Twins(String state, Supplier<PeelReadings> making) {
         this.state = state;
         this.making = making;
+    }
+
+    /** The names of all calls of the face. */
+    static Set<String> calls() {
+        return FACE.keySet();
     }
 
     static long ask(PeelReadings x, String call, int... arguments) {
